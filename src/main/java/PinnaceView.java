@@ -54,16 +54,13 @@ public final class PinnaceView {
 
     private final Tree tree = Tree.withRoot();
     private final ArrayList<Rule> ruleList = new ArrayList<Rule>();
-    private final Styles styles;
+    private final Page page = new Page();
+    private final Styles styles = page.styles;
     private final Styles stylesIfTurned = new Styles();
-    private final Page page;
     private int view = FIRST_VIEW;
 
     /** Makes a tree with the root alone, without rules, and a view that is 400 wide. */
     public PinnaceView() {
-        Styles shared = new Styles();
-        styles = shared;
-        page = new Page(shared);
     }
 
     // ---- the tree
@@ -413,7 +410,7 @@ public final class PinnaceView {
         sum = sum * 31 + added();
         sum = sum * 31 + nodes();
         sum = sum * 31 + rules();
-        sum = sum * 31 + pageHeight();
+        sum = sum * 31 + laidOut(0, view).highWithEdges();
         for (int number = 0; number < added(); number++) {
             if (isThere(number)) {
                 Node node = nodeAt(number);
@@ -545,7 +542,9 @@ public final class PinnaceView {
             this.tag = tag;
             letters = new int[isText ? MOST_WORDS : 0];
             declared = new int[isText ? 0 : PROPERTIES];
-            Arrays.fill(declared, UNDECLARED);
+            for (int property = 0; property < declared.length; property++) {
+                declared[property] = UNDECLARED;
+            }
             layout = new Layout(isText ? MOST_WORDS : 0);
         }
 
@@ -710,7 +709,8 @@ public final class PinnaceView {
         final int value;
         final boolean isStrong;
         final int[] tags = new int[MOST_PARTS];
-        final int[] classes = new int[MOST_PARTS];
+        /** A bit for the class that a part asks for. */
+        final int[] classBits = new int[MOST_PARTS];
         final int[] names = new int[MOST_PARTS];
         final boolean[] areClose = new boolean[MOST_PARTS];
         int parts = 0;
@@ -728,7 +728,7 @@ public final class PinnaceView {
                 return;
             }
             tags[parts] = tag;
-            classes[parts] = itsClass;
+            classBits[parts] = itsClass >= 0 && itsClass <= GREATEST_CLASS ? 1 << itsClass : 0;
             names[parts] = name;
             areClose[parts] = isClose;
             parts++;
@@ -763,7 +763,7 @@ public final class PinnaceView {
                 return false;
             }
             boolean isOfTag = tags[part] == -1 || tags[part] == element.tag;
-            boolean isOfClass = classes[part] == -1 || element.hasClass(classes[part]);
+            boolean isOfClass = (element.classes & classBits[part]) == classBits[part];
             boolean isOfName = names[part] == 0 || names[part] == element.name;
             return isOfTag && isOfClass && isOfName;
         }
@@ -777,7 +777,9 @@ public final class PinnaceView {
         boolean areFresh = false;
 
         int of(Node node, int property) {
-            return isKept(node, property) ? values[node.number][property] : 0;
+            int row = node.number;
+            boolean isKept = row >= 0 && row < MOST_NODES && property >= 0 && property < PROPERTIES;
+            return isKept ? values[row][property] : 0;
         }
 
         int reasonOf(Node node, int property) {
@@ -864,6 +866,8 @@ public final class PinnaceView {
     /** Where a node is: a box by its content, a text by its words; laid out, and then moved. */
     private static final class Layout {
         int sort = NOT_SHOWN;
+        /** The box in whose flow it is, if it is shown. */
+        Node home = null;
         /** Border and padding of one side. */
         int inset = 0;
         /** Margin, border and padding of one side. */
@@ -1101,7 +1105,7 @@ public final class PinnaceView {
 
     /** Lays out the whole tree, and tells what is where. */
     private static final class Page {
-        private final Styles styles;
+        final Styles styles = new Styles();
         private final Floats floats = new Floats();
         private final Waiting waiting = new Waiting();
         /** The width of the view that it was last laid out for; 0 if something was changed since then. */
@@ -1109,23 +1113,19 @@ public final class PinnaceView {
         int lineCount = 0;
         int widthOfLines = 0;
 
-        Page(Styles styles) {
-            this.styles = styles;
-        }
-
         void layOut(Tree tree, int viewWidth) {
             floats.clear();
             waiting.clear();
             lineCount = 0;
             widthOfLines = 0;
             prepare(tree.order);
-            findWish(tree.root, 0);
+            findWishes(tree.order);
             Layout root = tree.root.layout;
             root.left = root.edge;
             root.top = root.edge;
             root.wide = widthOr(tree.root, viewWidth - 2 * root.edge);
             tree.root.flow.room = tree.root.number;
-            fill(tree.root, 0);
+            fill(tree.root, tree.order, 0);
             shift(tree.order);
             laidWidth = viewWidth;
         }
@@ -1169,6 +1169,7 @@ public final class PinnaceView {
                 Node node = order.get(i);
                 Layout own = node.layout;
                 own.sort = sortFor(node);
+                own.home = homeFor(node);
                 own.inset = styles.of(node, BORDER) + styles.of(node, PADDING);
                 own.edge = own.inset + styles.of(node, MARGIN);
                 own.isScrolling = own.isBox() && styles.of(node, SCROLL) == 1;
@@ -1191,27 +1192,33 @@ public final class PinnaceView {
             return styles.of(node, DISPLAY) == 1 ? BLOCK : INLINE;
         }
 
-        private void findWish(Node box, int depth) {
-            box.flow.wish = 0;
-            box.flow.waiting = 0;
-            findWishIn(box, box.flow, depth);
+        private static Node homeFor(Node node) {
+            if (node.parent == null) {
+                return null;
+            }
+            return node.parent.layout.isBox() ? node.parent : node.parent.layout.home;
         }
 
-        /** Looks at what is in a node that is the box with this flow, or inline in it. */
-        private void findWishIn(Node from, Flow flow, int depth) {
-            if (depth > MOST_ANCESTORS) {
-                return;
+        /** From the end of the order, as the wish of a box hangs on those of the boxes in it. */
+        private void findWishes(ArrayList<Node> order) {
+            for (int i = order.size() - 1; i >= 0; i--) {
+                if (order.get(i).layout.isBox()) {
+                    findWish(order.get(i), order);
+                }
             }
-            for (int i = 0; i < from.children.size(); i++) {
-                Node child = from.children.get(i);
-                if (child.layout.sort == SHOWN_TEXT) {
-                    addToWish(child, flow);
-                } else if (child.layout.sort == INLINE) {
-                    findWishIn(child, flow, depth + 1);
-                } else if (child.layout.isBox()) {
-                    findWish(child, depth + 1);
-                    flow.wish = Math.max(flow.wish, widthOr(child, child.flow.wish) + 2 * child.layout.edge);
-                    flow.waiting = 0;
+        }
+
+        private void findWish(Node box, ArrayList<Node> order) {
+            box.flow.wish = 0;
+            box.flow.waiting = 0;
+            for (int i = 0; i < order.size(); i++) {
+                Node node = order.get(i);
+                if (node.layout.home == box && node.layout.isBox()) {
+                    int wide = widthOr(node, node.flow.wish) + 2 * node.layout.edge;
+                    box.flow.wish = Math.max(box.flow.wish, wide);
+                    box.flow.waiting = 0;
+                } else if (node.layout.home == box && node.layout.sort == SHOWN_TEXT) {
+                    addToWish(node, box.flow);
                 }
             }
         }
@@ -1230,12 +1237,12 @@ public final class PinnaceView {
             return width == AUTO ? Math.max(0, ifAuto) : width;
         }
 
-        private void fill(Node box, int depth) {
+        private void fill(Node box, ArrayList<Node> order, int depth) {
             Layout own = box.layout;
             box.flow.cursor = own.top;
             box.flow.gap = 0;
             own.lineCount = 0;
-            putChildren(box, box, depth);
+            putFlow(box, order, depth);
             putLines(box);
             int end = box.flow.cursor;
             if (box.flow.room == box.number) {
@@ -1246,29 +1253,26 @@ public final class PinnaceView {
             own.high = height == AUTO ? own.reach : height;
         }
 
-        /** Puts into the box what is in a node that is the box, or inline in it. */
-        private void putChildren(Node from, Node box, int depth) {
+        private void putFlow(Node box, ArrayList<Node> order, int depth) {
             if (depth > MOST_ANCESTORS) {
                 return;
             }
-            for (int i = 0; i < from.children.size(); i++) {
-                Node child = from.children.get(i);
-                int sort = child.layout.sort;
+            for (int i = 0; i < order.size(); i++) {
+                Node node = order.get(i);
+                int sort = node.layout.home == box ? node.layout.sort : NOT_SHOWN;
                 if (sort == SHOWN_TEXT) {
-                    waiting.add(child, styles.of(child, FONT));
-                } else if (sort == INLINE) {
-                    putChildren(child, box, depth + 1);
+                    waiting.add(node, styles.of(node, FONT));
                 } else if (sort == BLOCK) {
                     putLines(box);
-                    putBlock(child, box, depth + 1);
+                    putBlock(node, box, order, depth + 1);
                 } else if (sort == FLOATING) {
                     putLines(box);
-                    putFloat(child, box, depth + 1);
+                    putFloat(node, box, order, depth + 1);
                 }
             }
         }
 
-        private void putBlock(Node block, Node box, int depth) {
+        private void putBlock(Node block, Node box, ArrayList<Node> order, int depth) {
             Layout own = block.layout;
             Flow flow = box.flow;
             int margin = styles.of(block, MARGIN);
@@ -1278,12 +1282,12 @@ public final class PinnaceView {
             own.top = flow.cursor + own.inset;
             own.wide = widthOr(block, box.layout.wide - 2 * own.edge);
             block.flow.room = own.isScrolling ? block.number : flow.room;
-            fill(block, depth);
+            fill(block, order, depth);
             flow.cursor += own.high + 2 * own.inset + margin;
             flow.gap = margin;
         }
 
-        private void putFloat(Node floating, Node box, int depth) {
+        private void putFloat(Node floating, Node box, ArrayList<Node> order, int depth) {
             Layout own = floating.layout;
             int room = box.flow.room;
             int side = styles.of(floating, FLOAT);
@@ -1297,7 +1301,7 @@ public final class PinnaceView {
             own.left = x + own.edge;
             own.top = y + own.edge;
             floating.flow.room = floating.number;
-            fill(floating, depth);
+            fill(floating, order, depth);
             floats.put(room, side, x, y, wide, own.high + 2 * own.edge);
         }
 

@@ -40,6 +40,8 @@ public final class BoxTest {
         cut();
         hits();
         meanLine();
+        deepFlow();
+        deepRooms();
         refusals();
         CHECK.end();
     }
@@ -521,6 +523,40 @@ public final class BoxTest {
         CHECK.same("41 of four lines", v.meanLine(), 208.0 / 4);
         v.declare(box, DISPLAY, 0);
         CHECK.same("41 not of what is not shown", v.meanLine(), 200.0 / 3);
+    }
+
+    /** Inline ones in one another are one flow, however deep. */
+    private static void deepFlow() {
+        PinnaceView v = wide(200);
+        int floating = box(v, 0, FLOAT, 1);
+        int last = floating;
+        for (int i = 0; i < 8; i++) {
+            last = box(v, last, DISPLAY, 2);
+        }
+        int text = text(v, last, 2, 3);
+        CHECK.same("31 deep words", v.wideOf(floating), 48);
+        CHECK.same("35 deep words", v.lines(floating), 1);
+        word("36 37 deep words", v, text, 1, 24, 0);
+        int block = box(v, last, WIDTH, 60, HEIGHT, 3);
+        CHECK.same("31 a deep block", v.wideOf(floating), 60);
+        place("29 to 32 a deep block", v, block, 0, 16, 60, 3);
+        CHECK.same("39 a deep block", v.hit(59, 18), block);
+    }
+
+    private static void deepRooms() {
+        for (int side = 0; side < 2; side++) {
+            PinnaceView v = wide(200);
+            int last = 0;
+            for (int i = 0; i < 9; i++) {
+                last = box(v, last, FLOAT, side, PADDING, 1, LEFT, 1);
+            }
+            int text = text(v, last, 2);
+            int deepest = box(v, last, FLOAT, side, WIDTH, 7, HEIGHT, 5, TOP, 2);
+            word("36 37 in " + side, v, text, 0, 18, 9);
+            place("29 to 32 in " + side, v, deepest, 18, 27, 7, 5);
+            CHECK.same("39 in " + side, v.hit(24, 31), deepest);
+            CHECK.same("38 with all in it", v.pageHeight(), 39);
+        }
     }
 
     private static void refusals() {

@@ -35,8 +35,14 @@ final class Checker {
             call.run();
             return null;
         } catch (RuntimeException e) {
-            return e.getClass();
+            return isThrownBy("PinnaceView", e) ? e.getClass() : Error.class;
         }
+    }
+
+    /** Whether a class itself throws it: a list that is asked for too much throws of its own accord. */
+    static boolean isThrownBy(String name, RuntimeException e) {
+        StackTraceElement[] trace = e.getStackTrace();
+        return trace.length > 0 && trace[0].getClassName().startsWith(name);
     }
 
     /** What can be asked of an object, as a text. */

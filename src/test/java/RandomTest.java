@@ -10,11 +10,14 @@ public final class RandomTest {
     private final PlainModel model = new PlainModel();
     /** 0 a wild one; else one with small numbers, so that much meets in little room. */
     private final int kind;
+    /** Whether most is put into what was added last. */
+    private final boolean isDeep;
 
     private RandomTest(Checker checker, int seed) {
         this.checker = checker;
         random = new Random(seed);
         kind = seed % 4;
+        isDeep = seed % 5 == 0;
     }
 
     public static void main(String[] args) {
@@ -33,7 +36,8 @@ public final class RandomTest {
         try {
             return asked.get();
         } catch (IndexOutOfBoundsException | IllegalArgumentException | IllegalStateException e) {
-            return "throws." + e.getClass().getSimpleName();
+            boolean isOwn = Checker.isThrownBy("PinnaceView", e) || Checker.isThrownBy("PlainModel", e);
+            return "throws." + e.getClass().getSimpleName() + (isOwn ? "" : " by the machine");
         }
     }
 
@@ -73,6 +77,13 @@ public final class RandomTest {
 
     /** Elements mostly, as most calls are for these. */
     private int element() {
+        int last = model.items.size() - 1;
+        while (last > 0 && (model.items.get(last).gone || model.items.get(last).text)) {
+            last--;
+        }
+        if (isDeep && random.nextInt(3) > 0) {
+            return last;
+        }
         for (int i = 0; i < 6; i++) {
             int number = node();
             if (number >= 0 && number < model.items.size() && !model.items.get(number).gone

@@ -16,6 +16,7 @@ public final class TreeTest {
         takeAway();
         move();
         moveKeepsAncestorsFew();
+        asDeepAsCanBe();
         setClass();
         setName();
         asked();
@@ -171,6 +172,22 @@ public final class TreeTest {
         CHECK.same("6 one in it as deep as can be", v.move(pair, 8, 1), 2);
         CHECK.refuses("6 nothing fits in there", v, STATE, () -> v.addText(single));
         CHECK.same("6 still in it", v.parent(inPair), pair);
+    }
+
+    private static void asDeepAsCanBe() {
+        PinnaceView v = new PinnaceView();
+        int deepest = chain(v, 10);
+        int other = v.addElement(0, 0);
+        v.addRule(8, 5, false);
+        v.addPart(0, -1, -1, 0, false);
+        CHECK.same("16 the deepest counts", v.nodes(), 12);
+        CHECK.same("25 the deepest too", v.matched(0), 12);
+        CHECK.same("26 the deepest too", v.styleOf(deepest, 8), 5);
+        CHECK.refuses("6 all that is in it too deep", v, ARGUMENT, () -> v.move(1, other, 0));
+        CHECK.same("6 a deep one moved up", v.move(2, other, 0), 1);
+        CHECK.refuses("6 still too deep", v, ARGUMENT, () -> v.move(other, 1, 0));
+        CHECK.same("5 the deepest goes with it", v.takeAway(other), 10);
+        CHECK.same("17 it is gone", v.isThere(deepest), false);
     }
 
     private static void setClass() {
