@@ -1,20 +1,5 @@
 /** Promises 28 to 41: boxes and lines. */
-public final class BoxTest {
-    private static final int DISPLAY = 0;
-    private static final int WIDTH = 1;
-    private static final int HEIGHT = 2;
-    private static final int MARGIN = 3;
-    private static final int PADDING = 4;
-    private static final int BORDER = 5;
-    private static final int FLOAT = 6;
-    private static final int CLEAR = 7;
-    private static final int FONT = 9;
-    private static final int ALIGN = 10;
-    private static final int SCROLL = 11;
-    private static final int LEFT = 12;
-    private static final int TOP = 13;
-    private static final Class<?> INDEX = IndexOutOfBoundsException.class;
-    private static final Class<?> ARGUMENT = IllegalArgumentException.class;
+public final class BoxTest extends Build {
     private static final Checker CHECK = new Checker("BoxTest");
 
     private BoxTest() {
@@ -42,35 +27,7 @@ public final class BoxTest {
         meanLine();
         deepFlow();
         deepRooms();
-        refusals();
         CHECK.end();
-    }
-
-    /** An element with these properties and values, one behind the other. */
-    private static int box(PinnaceView v, int parent, int... declared) {
-        int element = v.addElement(parent, 0);
-        style(v, element, declared);
-        return element;
-    }
-
-    private static void style(PinnaceView v, int element, int... declared) {
-        for (int i = 0; i < declared.length; i += 2) {
-            v.declare(element, declared[i], declared[i + 1]);
-        }
-    }
-
-    private static int text(PinnaceView v, int parent, int... letters) {
-        int text = v.addText(parent);
-        for (int count : letters) {
-            v.addWord(text, count);
-        }
-        return text;
-    }
-
-    private static PinnaceView wide(int width) {
-        PinnaceView v = new PinnaceView();
-        v.setView(width);
-        return v;
     }
 
     /** x, y, and how wide and high a box is. */
@@ -557,32 +514,5 @@ public final class BoxTest {
             CHECK.same("39 in " + side, v.hit(24, 31), deepest);
             CHECK.same("38 with all in it", v.pageHeight(), 39);
         }
-    }
-
-    private static void refusals() {
-        PinnaceView v = new PinnaceView();
-        int text = text(v, 0, 3);
-        int gone = text(v, 0, 3);
-        v.takeAway(gone);
-        for (int node : new int[] {gone, gone + 1, -1, Integer.MAX_VALUE, Integer.MIN_VALUE}) {
-            CHECK.refuses("28 of " + node, v, INDEX, () -> v.sortOf(node));
-            CHECK.refuses("29 of " + node, v, INDEX, () -> v.xOf(node));
-            CHECK.refuses("30 of " + node, v, INDEX, () -> v.yOf(node));
-            CHECK.refuses("31 of " + node, v, INDEX, () -> v.wideOf(node));
-            CHECK.refuses("32 of " + node, v, INDEX, () -> v.highOf(node));
-            CHECK.refuses("33 of " + node, v, INDEX, () -> v.reachOf(node));
-            CHECK.refuses("34 of " + node, v, INDEX, () -> v.scrolled(node));
-            CHECK.refuses("35 of " + node, v, INDEX, () -> v.lines(node));
-            CHECK.refuses("36 of " + node, v, INDEX, () -> v.wordX(node, 0));
-            CHECK.refuses("37 of " + node, v, INDEX, () -> v.wordY(node, 0));
-            CHECK.refuses("40 of " + node, v, INDEX, () -> v.seen(node));
-        }
-        for (int word : new int[] {1, -1, 20, Integer.MAX_VALUE}) {
-            CHECK.refuses("36 word " + word, v, INDEX, () -> v.wordX(text, word));
-            CHECK.refuses("37 word " + word, v, INDEX, () -> v.wordY(text, word));
-        }
-        CHECK.refuses("36 no text", v, INDEX, () -> v.wordX(0, 0));
-        CHECK.refuses("37 no text", v, INDEX, () -> v.wordY(0, 0));
-        CHECK.refuses("40 no text", v, ARGUMENT, () -> v.seen(0));
     }
 }

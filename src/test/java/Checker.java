@@ -23,13 +23,7 @@ final class Checker {
         }
     }
 
-    /** The call throws exactly this exception, and nothing of the object is other than before. */
-    void refuses(String what, PinnaceView view, Class<?> due, Call call) {
-        String before = stateOf(view);
-        same(what + " throws", thrownBy(call), due);
-        same(what + " changes nothing", stateOf(view), before);
-    }
-
+    /** What a call throws, null if nothing; Error, if the program does not throw it by its own words. */
     static Class<?> thrownBy(Call call) {
         try {
             call.run();
@@ -43,33 +37,6 @@ final class Checker {
     static boolean isThrownBy(String name, RuntimeException e) {
         StackTraceElement[] trace = e.getStackTrace();
         return trace.length > 0 && trace[0].getClassName().startsWith(name);
-    }
-
-    /** What can be asked of an object, as a text. */
-    static String stateOf(PinnaceView view) {
-        StringBuilder text = new StringBuilder();
-        text.append(view.digest()).append(' ').append(view.meanLine());
-        for (int width : new int[] {20, 77, 400, 2000}) {
-            text.append(' ').append(view.heightIn(width));
-        }
-        for (int node = 0; node < view.added(); node++) {
-            text.append("\n").append(node).append(view.isThere(node));
-            if (view.isThere(node)) {
-                for (int property = 0; property < 14; property++) {
-                    text.append(' ').append(view.because(node, property));
-                }
-                for (int place = 0; !view.isText(node) && place < view.size(node); place++) {
-                    text.append(" >").append(view.childAt(node, place));
-                }
-                for (int rule = 0; rule < view.rules(); rule++) {
-                    text.append(view.matches(rule, node) ? '+' : '-');
-                }
-            }
-        }
-        for (int rule = 0; rule < view.rules(); rule++) {
-            text.append(' ').append(view.changedBy(rule));
-        }
-        return text.toString();
     }
 
     void end() {

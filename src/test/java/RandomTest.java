@@ -2,8 +2,9 @@ import java.util.Random;
 
 /** Runs of calls that are drawn (always the same ones), answered by PinnaceView and by PlainModel. */
 public final class RandomTest {
-    private static final int OBJECTS = 400;
-    private static final int CALLS = 500;
+    private static final int OBJECTS = 1000;
+    /** What an object answers after so many calls is free. */
+    private static final int CALLS = 512;
     private final Checker checker;
     private final Random random;
     private final PinnaceView view = new PinnaceView();
@@ -12,6 +13,7 @@ public final class RandomTest {
     private final int kind;
     /** Whether most is put into what was added last. */
     private final boolean isDeep;
+    private int calls = 0;
 
     private RandomTest(Checker checker, int seed) {
         this.checker = checker;
@@ -41,14 +43,22 @@ public final class RandomTest {
         }
     }
 
+    /** Leaves the last call of an object to the digest at the end. */
     private void both(String what, Asked ours, Asked models) {
-        checker.same(what, answer(ours), answer(models));
+        if (calls < CALLS - 1) {
+            calls++;
+            checker.same("call " + calls + " of " + what, answer(ours), answer(models));
+        }
+    }
+
+    private void bothDigests(String what) {
+        both(what + "digest", view::digest, model::digest);
     }
 
     private void run(int seed) {
-        for (int call = 0; call < CALLS; call++) {
-            String what = "seed " + seed + " call " + call + " ";
-            if (call < 25 && random.nextInt(3) > 0) {
+        String what = "seed " + seed + " ";
+        while (calls < CALLS - 1) {
+            if (calls < 25 && random.nextInt(3) > 0) {
                 grow(what);
             } else if (random.nextInt(4) == 0) {
                 change(what);
@@ -57,10 +67,11 @@ public final class RandomTest {
             } else {
                 ask(what);
             }
-            if (random.nextInt(8) == 0 || call == CALLS - 1) {
-                checker.same(what + "digest", view.digest(), model.digest());
+            if (random.nextInt(8) == 0) {
+                bothDigests(what);
             }
         }
+        checker.same("call " + CALLS + " of " + what + "digest", view.digest(), model.digest());
     }
 
     private int upTo(int bound) {
@@ -265,15 +276,17 @@ public final class RandomTest {
 
     private void hits(String what) {
         PlainModel.Picture picture = model.new Picture(model.view);
-        for (int i = 0; i < 6; i++) {
+        for (int i = 0; i < 3; i++) {
             int x = upTo(model.view + 40) - 20;
             int y = upTo(Math.min(2000, picture.pageHeight) + 40) - 20;
             both(what + "hit " + x + " " + y, () -> view.hit(x, y), () -> picture.hit(x, y));
         }
         for (PlainModel.Item item : picture.words.keySet()) {
-            both(what + "seen", () -> view.seen(item.number), () -> picture.seen(item));
+            if (random.nextInt(3) == 0) {
+                both(what + "seen", () -> view.seen(item.number), () -> picture.seen(item));
+            }
             for (PlainModel.Picture.Word word : picture.words.get(item)) {
-                if (random.nextInt(6) == 0) {
+                if (random.nextInt(15) == 0) {
                     int x = word.x + word.wide - upTo(1);
                     int y = word.y + 2 * word.font - upTo(1);
                     both(what + "hit at a word", () -> view.hit(x, y), () -> picture.hit(x, y));

@@ -1,11 +1,5 @@
 /** Promises 9 to 14 and 22 to 27: rules, declarations, the view, offsets, and what styles come to. */
-public final class StyleTest {
-    private static final Class<?> INDEX = IndexOutOfBoundsException.class;
-    private static final Class<?> ARGUMENT = IllegalArgumentException.class;
-    private static final Class<?> STATE = IllegalStateException.class;
-    private static final int[] LEAST = {0, -1, -1, 0, 0, 0, 0, 0, 0, 1, 0, 0, -500, -500};
-    private static final int[] GREATEST = {2, 1000, 1000, 100, 100, 20, 2, 3, 255, 40, 2, 1, 500, 500};
-    private static final int[] FIRST = {1, -1, -1, 0, 0, 0, 0, 0, 0, 8, 0, 0, 0, 0};
+public final class StyleTest extends Build {
     private static final Checker CHECK = new Checker("StyleTest");
 
     private StyleTest() {
@@ -27,31 +21,13 @@ public final class StyleTest {
         CHECK.end();
     }
 
-    /** A rule whose selector has one part that fits each element. */
-    private static int ruleForAll(PinnaceView v, int property, int value, boolean isStrong) {
-        int rule = v.addRule(property, value, isStrong);
-        v.addPart(rule, -1, -1, 0, false);
-        return rule;
-    }
-
     private static void addRule() {
         PinnaceView v = new PinnaceView();
-        CHECK.refuses("9 property 14", v, INDEX, () -> v.addRule(14, 0, false));
-        CHECK.refuses("9 property -1", v, INDEX, () -> v.addRule(-1, 0, false));
-        for (int property = 0; property < 14; property++) {
-            int p = property;
-            CHECK.refuses("9 below, of " + p, v, ARGUMENT, () -> v.addRule(p, LEAST[p] - 1, false));
-            CHECK.refuses("9 above, of " + p, v, ARGUMENT, () -> v.addRule(p, GREATEST[p] + 1, false));
-            CHECK.refuses("9 9998, of " + p, v, ARGUMENT, () -> v.addRule(p, 9998, false));
-        }
         for (int i = 0; i < 24; i++) {
             int p = i % 14;
             CHECK.same("9 number", v.addRule(p, i < 14 ? LEAST[p] : i < 20 ? GREATEST[p] : 9999, i % 2 == 0), i);
             CHECK.same("22 rules", v.rules(), i + 1);
         }
-        CHECK.refuses("9 a 25th", v, STATE, () -> v.addRule(0, 0, false));
-        CHECK.refuses("9 a 25th of no value", v, ARGUMENT, () -> v.addRule(0, 3, false));
-        CHECK.refuses("9 a 25th of no property", v, INDEX, () -> v.addRule(14, 3, false));
         CHECK.same("9 without parts", v.matched(0), 0);
         v.addPart(3, -1, -1, 0, false);
         v.addPart(17, -1, -1, 0, false);
@@ -63,17 +39,7 @@ public final class StyleTest {
         v.addRule(8, 1, false);
         CHECK.same("10 first", v.addPart(0, -1, -1, 0, false), 1);
         CHECK.same("10 second", v.addPart(0, 7, 7, 99, true), 2);
-        CHECK.refuses("10 tag 8", v, ARGUMENT, () -> v.addPart(0, 8, 0, 0, false));
-        CHECK.refuses("10 tag -2", v, ARGUMENT, () -> v.addPart(0, -2, 0, 0, false));
-        CHECK.refuses("10 class 8", v, ARGUMENT, () -> v.addPart(0, 0, 8, 0, false));
-        CHECK.refuses("10 class -2", v, ARGUMENT, () -> v.addPart(0, 0, -2, 0, false));
-        CHECK.refuses("10 name -1", v, ARGUMENT, () -> v.addPart(0, 0, 0, -1, false));
-        CHECK.refuses("10 name 100", v, ARGUMENT, () -> v.addPart(0, 0, 0, 100, false));
-        CHECK.refuses("10 no such rule", v, INDEX, () -> v.addPart(1, 8, 0, 0, false));
-        CHECK.refuses("10 rule -1", v, INDEX, () -> v.addPart(-1, 0, 0, 0, false));
         CHECK.same("10 third", v.addPart(0, 0, 0, 0, false), 3);
-        CHECK.refuses("10 a fourth", v, STATE, () -> v.addPart(0, 0, 0, 0, false));
-        CHECK.refuses("10 a fourth of no tag", v, ARGUMENT, () -> v.addPart(0, 8, 0, 0, false));
     }
 
     private static void turn() {
@@ -87,8 +53,6 @@ public final class StyleTest {
         CHECK.same("25 matched, on or off", v.matched(rule), 1);
         CHECK.same("11 on again", v.turn(rule), true);
         CHECK.same("11 counts again", v.styleOf(0, 8), 77);
-        CHECK.refuses("11 no such rule", v, INDEX, () -> v.turn(1));
-        CHECK.refuses("11 rule -1", v, INDEX, () -> v.turn(-1));
     }
 
     private static void declare() {
@@ -101,22 +65,12 @@ public final class StyleTest {
             CHECK.same("12 the least", v.styleOf(2, p), LEAST[p]);
             CHECK.same("12 the least before", v.declare(2, p, GREATEST[p]), LEAST[p]);
             CHECK.same("12 the greatest", v.styleOf(2, p), GREATEST[p]);
-            CHECK.refuses("12 below", v, ARGUMENT, () -> v.declare(2, p, LEAST[p] - 1));
-            CHECK.refuses("12 above", v, ARGUMENT, () -> v.declare(2, p, GREATEST[p] + 1));
             CHECK.same("12 the greatest before", v.declare(2, p, 9999), GREATEST[p]);
             CHECK.same("12 as the parent", v.styleOf(2, p), FIRST[p]);
             CHECK.same("12 none any more", v.declare(2, p, 9998), 9999);
             CHECK.same("12 the first", v.styleOf(2, p), FIRST[p]);
             CHECK.same("12 nothing before again", v.declare(2, p, 9998), 9998);
         }
-        CHECK.refuses("12 9997", v, ARGUMENT, () -> v.declare(2, 1, 9997));
-        CHECK.refuses("12 a text", v, ARGUMENT, () -> v.declare(1, 8, 1));
-        CHECK.refuses("12 a text, 9998", v, ARGUMENT, () -> v.declare(1, 8, 9998));
-        CHECK.refuses("12 property 14", v, INDEX, () -> v.declare(0, 14, 0));
-        CHECK.refuses("12 property -1 of a text", v, INDEX, () -> v.declare(1, -1, 0));
-        CHECK.refuses("12 no such node", v, INDEX, () -> v.declare(3, 0, 9));
-        v.takeAway(2);
-        CHECK.refuses("12 gone", v, INDEX, () -> v.declare(2, 0, 9));
     }
 
     private static void setView() {
@@ -125,8 +79,6 @@ public final class StyleTest {
         CHECK.same("13 the root is so wide", v.wideOf(0), 2000);
         CHECK.same("13 the least", v.setView(20), 2000);
         CHECK.same("13 the root is so narrow", v.wideOf(0), 20);
-        CHECK.refuses("13 19", v, ARGUMENT, () -> v.setView(19));
-        CHECK.refuses("13 2001", v, ARGUMENT, () -> v.setView(2001));
     }
 
     private static void scroll() {
@@ -136,12 +88,6 @@ public final class StyleTest {
         CHECK.same("14 0 at first", v.scroll(1, 5000), 0);
         CHECK.same("14 before", v.scroll(1, 0), 5000);
         CHECK.same("14 each its own", v.scroll(0, 3), 0);
-        CHECK.refuses("14 5001", v, ARGUMENT, () -> v.scroll(1, 5001));
-        CHECK.refuses("14 -1", v, ARGUMENT, () -> v.scroll(1, -1));
-        CHECK.refuses("14 a text", v, ARGUMENT, () -> v.scroll(2, 0));
-        CHECK.refuses("14 no such node", v, INDEX, () -> v.scroll(3, -1));
-        v.takeAway(1);
-        CHECK.refuses("14 gone", v, INDEX, () -> v.scroll(1, 0));
     }
 
     private static void weight() {
@@ -154,8 +100,6 @@ public final class StyleTest {
         CHECK.same("23 tag, class, name", v.weight(0), 111);
         v.addPart(0, 7, -1, 99, false);
         CHECK.same("23 together", v.weight(0), 212);
-        CHECK.refuses("23 no such rule", v, INDEX, () -> v.weight(1));
-        CHECK.refuses("23 rule -1", v, INDEX, () -> v.weight(-1));
     }
 
     private static void matches() {
@@ -194,13 +138,6 @@ public final class StyleTest {
         CHECK.same("24 the name is asked for", v.matches(1, 3), false);
         v.takeAway(3);
         CHECK.same("25 gone ones do not count", v.matched(0), 2);
-        CHECK.refuses("24 gone", v, INDEX, () -> v.matches(0, 3));
-        CHECK.refuses("24 a text gone", v, INDEX, () -> v.matches(0, 4));
-        CHECK.refuses("24 no such node", v, INDEX, () -> v.matches(0, 5));
-        CHECK.refuses("24 no such rule", v, INDEX, () -> v.matches(4, 0));
-        CHECK.refuses("24 rule -1", v, INDEX, () -> v.matches(-1, 0));
-        CHECK.refuses("25 no such rule", v, INDEX, () -> v.matched(4));
-        CHECK.refuses("25 rule -1", v, INDEX, () -> v.matched(-1));
     }
 
     /** The nearest ancestor that fits is not always the one whose own ancestors fit. */
@@ -264,20 +201,6 @@ public final class StyleTest {
         v.declare(1, 3, 9998);
         CHECK.same("26 the others again", v.styleOf(1, 3), 12);
         CHECK.same("26 other properties are free of it", v.styleOf(1, 4), 0);
-        refusalsOf(v);
-    }
-
-    private static void refusalsOf(PinnaceView v) {
-        int text = v.addText(0);
-        v.takeAway(text);
-        for (int node : new int[] {text, text + 1, -1}) {
-            CHECK.refuses("26 of " + node, v, INDEX, () -> v.styleOf(node, 0));
-            CHECK.refuses("27 of " + node, v, INDEX, () -> v.because(node, 0));
-        }
-        for (int property : new int[] {-1, 14, Integer.MAX_VALUE}) {
-            CHECK.refuses("26 property " + property, v, INDEX, () -> v.styleOf(0, property));
-            CHECK.refuses("27 property " + property, v, INDEX, () -> v.because(0, property));
-        }
     }
 
     private static void inherited() {

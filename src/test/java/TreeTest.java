@@ -1,8 +1,5 @@
 /** Promises 1 to 8 and 15 to 21: the tree, changed and asked. */
-public final class TreeTest {
-    private static final Class<?> INDEX = IndexOutOfBoundsException.class;
-    private static final Class<?> ARGUMENT = IllegalArgumentException.class;
-    private static final Class<?> STATE = IllegalStateException.class;
+public final class TreeTest extends Build {
     private static final Checker CHECK = new Checker("TreeTest");
 
     private TreeTest() {
@@ -47,41 +44,18 @@ public final class TreeTest {
         v.addText(0);
         v.addElement(0, 1);
         v.takeAway(4);
-        CHECK.refuses("2 no such node", v, INDEX, () -> v.addElement(5, 0));
-        CHECK.refuses("2 below 0", v, INDEX, () -> v.addElement(-1, 0));
-        CHECK.refuses("2 gone", v, INDEX, () -> v.addElement(4, 8));
-        CHECK.refuses("2 into a text", v, ARGUMENT, () -> v.addElement(3, 0));
-        CHECK.refuses("2 tag 8", v, ARGUMENT, () -> v.addElement(0, 8));
-        CHECK.refuses("2 tag -1", v, ARGUMENT, () -> v.addElement(0, -1));
         for (int i = v.added(); i < 40; i++) {
             CHECK.same("2 up to 40", v.addElement(0, 1), i);
         }
-        CHECK.refuses("2 a 41st", v, STATE, () -> v.addElement(0, 0));
-        CHECK.refuses("2 a 41st of no tag", v, ARGUMENT, () -> v.addElement(0, 8));
-        v.takeAway(20);
-        CHECK.refuses("2 gone ones count", v, STATE, () -> v.addElement(0, 0));
     }
 
     private static void addText() {
         PinnaceView v = new PinnaceView();
-        int deepest = chain(v, 10);
+        chain(v, 10);
         CHECK.same("3 with 9 ancestors ahead", v.addText(9), 11);
         CHECK.same("3 is a text", v.isText(11), true);
         CHECK.same("3 has no words", v.size(11), 0);
         CHECK.same("3 last child", v.childAt(9, 1), 11);
-        CHECK.refuses("3 too deep", v, STATE, () -> v.addText(deepest));
-        CHECK.refuses("2 too deep", v, STATE, () -> v.addElement(deepest, 0));
-        CHECK.refuses("2 too deep and no tag", v, ARGUMENT, () -> v.addElement(deepest, 9));
-        CHECK.refuses("3 into a text", v, ARGUMENT, () -> v.addText(11));
-        CHECK.refuses("3 no such node", v, INDEX, () -> v.addText(12));
-        CHECK.refuses("3 below 0", v, INDEX, () -> v.addText(-1));
-        v.takeAway(10);
-        CHECK.refuses("3 gone", v, INDEX, () -> v.addText(10));
-        while (v.added() < 40) {
-            v.addText(0);
-        }
-        CHECK.refuses("3 a 41st", v, STATE, () -> v.addText(0));
-        CHECK.refuses("3 a 41st in a text", v, ARGUMENT, () -> v.addText(11));
     }
 
     private static void addWord() {
@@ -91,17 +65,9 @@ public final class TreeTest {
         CHECK.same("4 twelve letters", v.addWord(text, 12), 2);
         CHECK.same("4 size", v.size(text), 2);
         CHECK.same("4 behind the other", v.wordX(text, 1), 16);
-        CHECK.refuses("4 no letters", v, ARGUMENT, () -> v.addWord(text, 0));
-        CHECK.refuses("4 thirteen letters", v, ARGUMENT, () -> v.addWord(text, 13));
-        CHECK.refuses("4 an element", v, ARGUMENT, () -> v.addWord(0, 1));
-        CHECK.refuses("4 no such node", v, INDEX, () -> v.addWord(2, 0));
         for (int words = 3; words <= 20; words++) {
             CHECK.same("4 up to 20", v.addWord(text, 2), words);
         }
-        CHECK.refuses("4 a 21st", v, STATE, () -> v.addWord(text, 2));
-        CHECK.refuses("4 a 21st too long", v, ARGUMENT, () -> v.addWord(text, 13));
-        v.takeAway(text);
-        CHECK.refuses("4 gone", v, INDEX, () -> v.addWord(text, 2));
     }
 
     private static void takeAway() {
@@ -121,11 +87,6 @@ public final class TreeTest {
         CHECK.same("5 nodes", v.nodes(), 2);
         CHECK.same("5 added", v.added(), 6);
         CHECK.same("5 number not used again", v.addElement(0, 0), 6);
-        CHECK.refuses("5 gone already", v, INDEX, () -> v.takeAway(1));
-        CHECK.refuses("5 gone with its parent", v, INDEX, () -> v.takeAway(3));
-        CHECK.refuses("5 no such node", v, INDEX, () -> v.takeAway(7));
-        CHECK.refuses("5 below 0", v, INDEX, () -> v.takeAway(-1));
-        CHECK.refuses("5 the root", v, ARGUMENT, () -> v.takeAway(0));
     }
 
     private static void move() {
@@ -146,31 +107,16 @@ public final class TreeTest {
         CHECK.same("6 with what is in it", v.parent(4), 1);
         CHECK.same("6 a text, ahead of another", v.move(4, 3, 0), 2);
         CHECK.same("6 order e", childrenOf(v, 3), "4 1 ");
-        CHECK.refuses("6 the root", v, ARGUMENT, () -> v.move(0, 2, 0));
-        CHECK.refuses("6 into a text", v, ARGUMENT, () -> v.move(2, 4, 0));
-        CHECK.refuses("6 into itself", v, ARGUMENT, () -> v.move(3, 3, 0));
-        CHECK.refuses("6 into what is in it", v, ARGUMENT, () -> v.move(3, 1, 0));
-        CHECK.refuses("6 place -1", v, ARGUMENT, () -> v.move(2, 3, -1));
-        CHECK.refuses("6 place behind the last", v, ARGUMENT, () -> v.move(2, 3, 3));
-        CHECK.refuses("6 place, counted without it", v, ARGUMENT, () -> v.move(2, 0, 2));
-        CHECK.refuses("6 no such node", v, INDEX, () -> v.move(5, 0, 0));
-        CHECK.refuses("6 no such parent", v, INDEX, () -> v.move(0, 5, 0));
-        v.takeAway(2);
-        CHECK.refuses("6 gone", v, INDEX, () -> v.move(2, 0, 0));
-        CHECK.refuses("6 parent gone", v, INDEX, () -> v.move(0, 2, -1));
     }
 
     private static void moveKeepsAncestorsFew() {
         PinnaceView v = new PinnaceView();
-        int deepest = chain(v, 10);
+        chain(v, 10);
         int single = v.addElement(0, 1);
         int pair = v.addElement(0, 1);
         int inPair = v.addText(pair);
-        CHECK.refuses("6 the node too deep", v, ARGUMENT, () -> v.move(single, deepest, 0));
         CHECK.same("6 as deep as can be", v.move(single, 9, 0), 2);
-        CHECK.refuses("6 one in it too deep", v, ARGUMENT, () -> v.move(pair, 9, 0));
         CHECK.same("6 one in it as deep as can be", v.move(pair, 8, 1), 2);
-        CHECK.refuses("6 nothing fits in there", v, STATE, () -> v.addText(single));
         CHECK.same("6 still in it", v.parent(inPair), pair);
     }
 
@@ -183,9 +129,7 @@ public final class TreeTest {
         CHECK.same("16 the deepest counts", v.nodes(), 12);
         CHECK.same("25 the deepest too", v.matched(0), 12);
         CHECK.same("26 the deepest too", v.styleOf(deepest, 8), 5);
-        CHECK.refuses("6 all that is in it too deep", v, ARGUMENT, () -> v.move(1, other, 0));
         CHECK.same("6 a deep one moved up", v.move(2, other, 0), 1);
-        CHECK.refuses("6 still too deep", v, ARGUMENT, () -> v.move(other, 1, 0));
         CHECK.same("5 the deepest goes with it", v.takeAway(other), 10);
         CHECK.same("17 it is gone", v.isThere(deepest), false);
     }
@@ -203,12 +147,6 @@ public final class TreeTest {
         CHECK.same("7 has it no more", v.matches(0, 0), false);
         CHECK.same("7 takes what is not there", v.setClass(0, 7, false), false);
         CHECK.same("7 the other one stayed", v.setClass(0, 0, false), true);
-        CHECK.refuses("7 class 8", v, ARGUMENT, () -> v.setClass(0, 8, true));
-        CHECK.refuses("7 class -1", v, ARGUMENT, () -> v.setClass(0, -1, true));
-        CHECK.refuses("7 a text", v, ARGUMENT, () -> v.setClass(1, 0, true));
-        CHECK.refuses("7 no such node", v, INDEX, () -> v.setClass(2, 9, true));
-        v.takeAway(1);
-        CHECK.refuses("7 gone", v, INDEX, () -> v.setClass(1, 9, true));
     }
 
     private static void setName() {
@@ -222,12 +160,6 @@ public final class TreeTest {
         CHECK.same("8 several can have it", v.matched(0), 2);
         CHECK.same("8 none again", v.setName(0, 0), 99);
         CHECK.same("8 is not named", v.matches(0, 0), false);
-        CHECK.refuses("8 name 100", v, ARGUMENT, () -> v.setName(0, 100));
-        CHECK.refuses("8 name -1", v, ARGUMENT, () -> v.setName(0, -1));
-        CHECK.refuses("8 a text", v, ARGUMENT, () -> v.setName(1, 1));
-        CHECK.refuses("8 no such node", v, INDEX, () -> v.setName(3, 100));
-        v.takeAway(1);
-        CHECK.refuses("8 gone", v, INDEX, () -> v.setName(1, 1));
     }
 
     private static void asked() {
@@ -253,31 +185,5 @@ public final class TreeTest {
         CHECK.same("20 children", v.size(0), 1);
         CHECK.same("20 words", v.size(2), 1);
         CHECK.same("21 child", v.childAt(1, 0), 2);
-        CHECK.refuses("21 no such place", v, INDEX, () -> v.childAt(0, 1));
-        CHECK.refuses("21 place -1", v, INDEX, () -> v.childAt(0, -1));
-        CHECK.refuses("21 a text", v, INDEX, () -> v.childAt(2, 0));
-        for (int node : new int[] {3, 4, 40, -1, Integer.MIN_VALUE, Integer.MAX_VALUE}) {
-            CHECK.refuses("18 of " + node, v, INDEX, () -> v.isText(node));
-            CHECK.refuses("19 of " + node, v, INDEX, () -> v.parent(node));
-            CHECK.refuses("20 of " + node, v, INDEX, () -> v.size(node));
-            CHECK.refuses("21 of " + node, v, INDEX, () -> v.childAt(node, 0));
-        }
-    }
-
-    /** One element in the other, so that the last one has so many ancestors. */
-    private static int chain(PinnaceView v, int ancestors) {
-        int last = 0;
-        for (int i = 0; i < ancestors; i++) {
-            last = v.addElement(last, 0);
-        }
-        return last;
-    }
-
-    private static String childrenOf(PinnaceView v, int node) {
-        StringBuilder text = new StringBuilder();
-        for (int place = 0; place < v.size(node); place++) {
-            text.append(v.childAt(node, place)).append(' ');
-        }
-        return text.toString();
     }
 }
