@@ -80,14 +80,14 @@ final class Document {
         return left;
     }
 
-    /** The lines of promises that say which exception is thrown when, and that no test has quoted. */
-    List<String> unquotedThrows() {
+    /** The lines of promises that say what is returned, or thrown when, and that no test has quoted. */
+    List<String> unquotedPromises() {
         List<String> left = new ArrayList<>();
         for (Map.Entry<Integer, String> promise : promises.entrySet()) {
-            String[] parts = promise.getValue().split("(?=Throws )");
+            String[] parts = promise.getValue().split("(?=Throws |Returns )");
             for (String part : parts) {
                 String line = promise.getKey() + " " + part.trim();
-                if (part.startsWith("Throws ") && !quotes.contains(line)) {
+                if (part.matches("(Throws|Returns) .*") && !quotes.contains(line)) {
                     left.add(line);
                 }
             }

@@ -42,7 +42,7 @@ public final class EdgeTest {
         for (String sentence : document.unquotedTerms()) {
             checker.same("a test of \"" + sentence + "\"", "none", "one");
         }
-        for (String line : document.unquotedThrows()) {
+        for (String line : document.unquotedPromises()) {
             checker.same("a test of promise " + line, "none", "one");
         }
         checker.same("promises in the document", document.promises(), 44);

@@ -14,9 +14,11 @@ final class FloatEdges extends Build {
         wishOfWords();
         wishOfBoxes();
         wishesInWishes();
+        tenLevels();
         withEdges();
         notAboveTheCursor();
         notAboveAnEarlierTop();
+        notAboveOneFartherDown();
         notAboveByItsClear();
         justWithinTheSpan();
         withoutWidth();
@@ -103,6 +105,9 @@ final class FloatEdges extends Build {
         edges.same("one word", v.wideOf(floating), 8);
         style(v, floating, FONT, 1);
         edges.same("one letter of 1", v.wideOf(floating), 1);
+        v.takeAway(text);
+        v.takeAway(block);
+        edges.same("nothing again", v.wideOf(floating), 0);
     }
 
     private void wishOfWords() {
@@ -182,6 +187,23 @@ final class FloatEdges extends Build {
         edges.same("what is left", v.wideOf(floating), 10);
     }
 
+    private void tenLevels() {
+        edges.terms(7, WISH);
+        for (int side = 1; side <= 2; side++) {
+            PinnaceView v = wide(34);
+            int[] floats = new int[10];
+            for (int i = 1; i < 10; i++) {
+                floats[i] = box(v, floats[i - 1], FLOAT, side, PADDING, 1);
+            }
+            int text = text(v, floats[9], 2);
+            int deepest = box(v, floats[9], FLOAT, 2, WIDTH, 7, HEIGHT, 5);
+            edges.place("the outermost one", v, floats[1], 0, 0, 34, 39);
+            edges.place("the innermost one", v, floats[9], 8, 8, 18, 23);
+            edges.word("with 10 ancestors", v, text, 0, 9, 9);
+            edges.place("with 10 ancestors", v, deepest, 18, 25, 7, 5);
+        }
+    }
+
     private void withEdges() {
         edges.terms(7, "A FLOAT is as wide and high as its content and 2 * EDGE.");
         PinnaceView v = wide(100);
@@ -239,6 +261,24 @@ final class FloatEdges extends Build {
         edges.place("in a BLOCK", v, third, 90, 10, 10, 5);
         style(v, block, SCROLL, 1);
         edges.place("in another ROOM", v, third, 90, 0, 10, 5);
+    }
+
+    private void notAboveOneFartherDown() {
+        edges.terms(7, PUT);
+        PinnaceView v = wide(100);
+        int block = box(v, 0, HEIGHT, 0);
+        box(v, block, HEIGHT, 50);
+        int first = box(v, block, FLOAT, 1, WIDTH, 10, HEIGHT, 5);
+        int second = box(v, 0, FLOAT, 1, WIDTH, 10, HEIGHT, 5);
+        int text = text(v, 0, 1);
+        edges.place("out of a BLOCK without height", v, first, 0, 50, 10, 5);
+        edges.place("not above that, though the cursor is", v, second, 10, 50, 10, 5);
+        edges.word("a line at the cursor", v, text, 0, 0, 0);
+        edges.same("the lowest bottom", v.reachOf(0), 55);
+        style(v, block, SCROLL, 1);
+        edges.place("that one is of another ROOM", v, second, 0, 0, 10, 5);
+        edges.word("a line beside it", v, text, 0, 10, 0);
+        edges.same("the line's bottom", v.reachOf(0), 16);
     }
 
     private void notAboveByItsClear() {

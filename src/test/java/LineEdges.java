@@ -19,6 +19,7 @@ final class LineEdges extends Build {
         goesDownToTheLeast();
         goesDownForNothing();
         takesItAlone();
+        manyWords();
         asHighAs();
         align();
         alignBesideFloats();
@@ -248,6 +249,24 @@ final class LineEdges extends Build {
         style(v, 0, WIDTH, 0);
         edges.same("each alone, without any SPAN", v.lines(0), 5);
         edges.word("the last", v, text, 4, 0, 64);
+    }
+
+    private void manyWords() {
+        edges.terms(6, "A line at the cursor takes words, as long as they end within the SPAN at the cursor.");
+        PinnaceView v = wide(20);
+        int last = 0;
+        for (int texts = 0; texts < 22; texts++) {
+            last = text(v, 0, 1, 1, 1, 1, 1, 1, 1, 1, 1, 1, 1, 1, 1, 1, 1, 1, 1, 1, 1, 1);
+        }
+        edges.same("440 words, a line for each", v.lines(0), 440);
+        edges.word("the last of them", v, last, 19, 0, 439 * 16);
+        edges.same("all of them", v.pageHeight(), 440 * 16);
+        edges.same("their mean", v.meanLine(), 8.0);
+        edges.same("125 just end within 1992", v.heightIn(1992), 4 * 16);
+        edges.same("88 in each of five lines", v.heightIn(1400), 5 * 16);
+        edges.same("87 in a line, six lines", v.heightIn(1399), 6 * 16);
+        style(v, 0, WIDTH, 0);
+        edges.same("each alone, without any SPAN", v.lines(0), 440);
     }
 
     private void asHighAs() {

@@ -98,6 +98,10 @@ final class StyleEdges extends Build {
             edges.same("two parts", v.addPart(rule, -1, -1, 0, false), 2);
             edges.same("three parts", v.addPart(rule, -1, -1, 0, false), 3);
         }
+        edges.promise(9, "Returns its number.");
+        PinnaceView w = Scenes.MIXED.built();
+        edges.same("behind the others", w.addRule(0, 1, true), Scenes.RULES);
+        edges.same("behind that", w.addRule(13, 9999, false), Scenes.RULES + 1);
         edges.promise(9, "Adds a rule without parts, on.");
         PinnaceView fresh = new PinnaceView();
         fresh.addRule(COLOR, 7, true);

@@ -180,15 +180,17 @@ final class TreeEdges extends Build {
 
     private void lastChild() {
         PinnaceView v = new PinnaceView();
-        edges.promise(2, "Adds an element, as the last child of another one.");
+        edges.promise(2, "Returns its number.");
         edges.same("the first of none", v.addElement(0, 7), 1);
         v.addText(0);
         edges.same("behind a text", v.addElement(0, 0), 3);
         edges.same("in the first", v.addElement(1, 0), 4);
+        edges.promise(2, "Adds an element, as the last child of another one.");
         edges.same("the root's children", childrenOf(v, 0), "1 2 3 ");
         edges.same("its children", childrenOf(v, 1), "4 ");
-        edges.promise(3, "Adds a text without words, as the last child of an element.");
+        edges.promise(3, "Returns its number.");
         edges.same("the text's number", v.addText(0), 5);
+        edges.promise(3, "Adds a text without words, as the last child of an element.");
         edges.same("behind the elements", childrenOf(v, 0), "1 2 3 5 ");
         edges.same("without words", v.size(5), 0);
         edges.same("a text", v.isText(5), true);
@@ -201,6 +203,9 @@ final class TreeEdges extends Build {
         edges.same("two then", v.takeAway(Scenes.PAIR), 2);
         edges.same("ten levels, and a text", v.takeAway(1), 11);
         edges.same("what is left", childrenOf(v, 0), Scenes.SINGLE + " ");
+        for (int node = 1; node <= Scenes.DEEP_TEXT; node++) {
+            edges.same("gone, however deep it was, " + node, v.isThere(node), false);
+        }
         PinnaceView all = new PinnaceView();
         int parent = all.addElement(0, 0);
         for (int i = 0; i < 38; i++) {
@@ -232,14 +237,15 @@ final class TreeEdges extends Build {
     }
 
     private void placesInAnother() {
-        edges.promise(6, "Moves a node, with all that is in it, to a place among the children of an element; "
-                + "those behind it there come one place later.");
         PinnaceView v = new PinnaceView();
         int from = v.addElement(0, 0);
         int to = v.addElement(0, 0);
         int moved = v.addElement(from, 0);
         int text = text(v, moved, 2);
+        edges.promise(6, "Returns how many children the element has then.");
         edges.same("into an empty one", v.move(moved, to, 0), 1);
+        edges.promise(6, "Moves a node, with all that is in it, to a place among the children of an element; "
+                + "those behind it there come one place later.");
         edges.same("out of the other", v.size(from), 0);
         edges.same("what is in it", v.parent(text), moved);
         edges.same("ahead of all", v.move(from, to, 0), 2);
